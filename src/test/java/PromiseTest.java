@@ -170,6 +170,11 @@ public final class PromiseTest {
                 Check.number(3, 0, 7), Check.number(4, 1, 8), Check.number(5, 2, 9),
                 Check.number(6, 3, 10), Check.number(7, 4, 11), Check.number(8, 5, 12)));
         Check.due("5: the other zones", x.size(1) + x.size(2), 2 * 2197);
+        for (int z = 0; z < 3; z++) {
+            x = point(z, 10, 10, 10);
+            Check.due("5: pass to the last reading", x.pass(z), 1);
+            Check.same("5: readings", Check.readings(x, z), List.of(1830, 2013, 2196));
+        }
         // A clock at 12 lets no time go by, and no clock runs over into the one before it.
         int[][] stuck = {{12, 5, 0}, {0, 12, 5}, {5, 0, 12}, {0, 0, 12}, {0, 12, 0}, {12, 12, 12}};
         for (int[] r : stuck) {
@@ -200,6 +205,11 @@ public final class PromiseTest {
             x = point(1, r[0], r[1], r[2]);
             Check.due("6: back at 0", x.back(1), 1);
             Check.same("6: at 0", Check.readings(x, 1), List.of(Check.number(r[0], r[1], r[2])));
+        }
+        for (int z = 0; z < 3; z++) {
+            x = point(z, 2, 2, 2);
+            Check.due("6: back to the first reading", x.back(z), 1);
+            Check.same("6: readings", Check.readings(x, z), List.of(0, 183, 366));
         }
         x = new ClockZones();
         Check.due("6: back of all", x.back(2), 1);
@@ -256,6 +266,11 @@ public final class PromiseTest {
 
     private static void free() {
         for (int clock = 1; clock <= 3; clock++) {
+            for (int k = 0; k <= 12; k++) {
+                ClockZones x = point(2, k, k, k);
+                Check.due("8: free from " + k, x.free(2, clock), 1);
+                Check.due("8: size", x.size(2), 13);
+            }
             ClockZones x = point(0, 4, 7, 9);
             Check.due("8: free " + clock, x.free(0, clock), 1);
             Check.due("8: size", x.size(0), 13);
@@ -538,6 +553,7 @@ public final class PromiseTest {
         Check.due("18: the last reading", x.within(0, 1), 1);
         x.zero(1);
         Check.due("18: another reading", x.within(0, 1), 0);
+        Check.due("18: the first reading", x.within(1, 0), 0);
         for (int z : Check.NOT_ZONES) {
             Check.due("18: within(0, " + z + ")", x.within(0, z), -1);
             Check.due("18: within(" + z + ", 0)", x.within(z, 0), -1);
@@ -561,6 +577,8 @@ public final class PromiseTest {
         Check.due("19: empty with itself", x.touch(2, 2), 0);
         putPoint(x, 2, 12, 12, 12);
         Check.due("19: the last reading", x.touch(1, 2), 1);
+        x.zero(2);
+        Check.due("19: the first reading", x.touch(0, 2), 1);
         for (int z : Check.NOT_ZONES) {
             Check.due("19: touch(0, " + z + ")", x.touch(0, z), -1);
             Check.due("19: touch(" + z + ", 0)", x.touch(z, 0), -1);
