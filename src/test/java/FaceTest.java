@@ -83,6 +83,7 @@ public final class FaceTest {
             Check.same("the word " + word + " in the source", found.find(), false);
         }
         Check.same("a text in the source", code.contains("\""), false);
-        Check.same("a lambda or method reference", code.contains("->") || code.contains("::"), false);
+        boolean arrow = code.contains("->") || code.contains("::");
+        Check.same("a lambda or method reference", arrow, false);
     }
 }

@@ -5,10 +5,6 @@ import java.util.TreeSet;
  * its new set out of the old one's readings, where ClockZones works in place.
  */
 final class Model {
-    static final String[] NAMES = {"all", "zero", "keep", "pass", "back", "set", "free", "follow",
-        "meet", "hull", "copy", "empty", "widest", "has", "size", "next", "within", "touch"};
-    static final int[] COUNTS = {1, 1, 4, 1, 1, 3, 2, 3, 2, 2, 2, 1, 3, 4, 1, 2, 2, 2};
-
     private final TreeSet<Integer>[] zones;
 
     @SuppressWarnings({"unchecked", "rawtypes"})
@@ -126,7 +122,7 @@ final class Model {
         return s.isEmpty() ? 0 : 1;
     }
 
-    /** What the document asks for the call of the method m of NAMES. */
+    /** What the document asks for the call of the method m of Methods.NAMES. */
     int call(int m, int[] p) {
         boolean twoZones = m >= 8 && m <= 10 || m >= 16;
         if (!zone(p[0]) || twoZones && !zone(p[1])) {
@@ -195,7 +191,8 @@ final class Model {
                 if (!pair(p[1], p[2])) {
                     return -200;
                 }
-                return s.stream().mapToInt(n -> clocks(n)[p[1]] - clocks(n)[p[2]]).max().orElse(-300);
+                return s.stream().map(Model::clocks)
+                        .mapToInt(k -> k[p[1]] - k[p[2]]).max().orElse(-300);
             case 13:
                 int[] r = {0, p[1], p[2], p[3]};
                 return isReading(r) && s.contains(number(r)) ? 1 : 0;

@@ -26,8 +26,6 @@ public final class PromiseTest {
         next();
         within();
         touch();
-        refusedCallsChangeNothing();
-        questionsChangeNothing();
         Check.end();
     }
 
@@ -583,73 +581,5 @@ public final class PromiseTest {
             Check.due("19: touch(0, " + z + ")", x.touch(0, z), -1);
             Check.due("19: touch(" + z + ", 0)", x.touch(z, 0), -1);
         }
-    }
-
-    /** Three zones of different shapes, none of them empty or full. */
-    private static ClockZones shapes() {
-        ClockZones x = point(0, 4, 7, 9);
-        x.pass(0);
-        x.keep(1, 1, 2, -2);
-        x.keep(1, 3, 1, 5);
-        x.keep(2, 0, 3, -6);
-        x.keep(2, 2, 0, 10);
-        return x;
-    }
-
-    private static void refusedCallsChangeNothing() {
-        ClockZones x = shapes();
-        List<Integer> before = Check.state(x);
-        for (int z : Check.NOT_ZONES) {
-            x.all(z);
-            x.zero(z);
-            x.keep(z, 1, 0, 3);
-            x.pass(z);
-            x.back(z);
-            x.set(z, 1, 3);
-            x.free(z, 1);
-            x.follow(z, 1, 2);
-        }
-        for (int z : Check.NOT_ZONES) {
-            for (int y = 0; y < 3; y++) {
-                x.meet(y, z);
-                x.meet(z, y);
-                x.hull(y, z);
-                x.hull(z, y);
-                x.copy(y, z);
-                x.copy(z, y);
-            }
-        }
-        Check.same("wrong zones: state", Check.state(x), before);
-        x = shapes();
-        for (int z = 0; z < 3; z++) {
-            for (int k = 0; k < 5; k++) {
-                x.keep(z, Check.NOT_SIDES[k], 1, 3);
-                x.keep(z, 1, Check.NOT_SIDES[k], 3);
-                x.keep(z, 1, 2, Check.NOT_BOUNDS[k]);
-                x.set(z, Check.NOT_CLOCKS[k], 3);
-                x.set(z, 1, Check.NOT_NUMBERS[k]);
-                x.free(z, Check.NOT_CLOCKS[k]);
-                x.follow(z, Check.NOT_CLOCKS[k], 1);
-                x.follow(z, 1, Check.NOT_CLOCKS[k]);
-            }
-        }
-        Check.same("wrong clocks and numbers: state", Check.state(x), before);
-    }
-
-    private static void questionsChangeNothing() {
-        ClockZones x = shapes();
-        List<Integer> before = Check.state(x);
-        for (int y = 0; y < 3; y++) {
-            x.empty(y);
-            x.widest(y, 1, 2);
-            x.has(y, 4, 7, 9);
-            x.size(y);
-            x.next(y, 700);
-            for (int z = 0; z < 3; z++) {
-                x.within(y, z);
-                x.touch(y, z);
-            }
-        }
-        Check.same("questions: state", Check.state(x), before);
     }
 }
